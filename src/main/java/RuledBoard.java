@@ -81,6 +81,7 @@ public final class RuledBoard {
             throw new IllegalArgumentException("no such move");
         }
         history.makeMove(position, codeOf(from, to, promotion));
+        history.notePosition(position, position.passingMoves());
         return history.made;
     }
 
@@ -176,7 +177,8 @@ public final class RuledBoard {
         position.passed = passed;
         position.kings[WHITE] = position.squareOf(KING);
         position.kings[BLACK] = position.squareOf(KING + KINDS);
-        history.start(position);
+        history.start();
+        history.notePosition(position, position.passingMoves());
         playing = true;
     }
 
@@ -249,8 +251,10 @@ public final class RuledBoard {
         private static final int WAYS = 8;
         private static final int FIRST_SLANTING = 4;
 
-        private static final int[] KNIGHT_FILES = {1, 2, 2, 1, -1, -2, -2, -1};
-        private static final int[] KNIGHT_RANKS = {2, 1, -1, -2, -2, -1, 1, 2};
+        /** A knight's jumps; the two rows go together. */
+        private static final int[] JUMP_FILES = {1, 2, 2, 1, -1, -2, -2, -1};
+        private static final int[] JUMP_RANKS = {2, 1, -1, -2, -2, -1, 1, 2};
+        private static final int JUMPS = 8;
 
         final int[] squares = new int[SQUARES];
         /** Where the king of each side stands, so that no test for check has to look for it. */
@@ -260,7 +264,6 @@ public final class RuledBoard {
         int passed;
 
         void putHomePieces() {
-            Arrays.fill(squares, NONE);
             for (int file = 0; file < FILES; file++) {
                 squares[file] = HOME_ROW[file];
                 squares[8 + file] = PAWN;
@@ -282,29 +285,31 @@ public final class RuledBoard {
             return isHitBy(1 - ofSide, kings[ofSide]);
         }
 
-        /** Looks from the square outwards: the first piece on each way, then the knights. */
+        /** Looks from the square outwards, since only the first piece on a way can hit it along that way. */
         boolean isHitBy(int bySide, int square) {
             for (int way = 0; way < WAYS; way++) {
-                if (isHitAlong(way, bySide, square)) {
-                    return true;
+                int steps = stepsToBorder(way, square);
+                int from = square;
+                boolean open = true;
+                for (int distance = 1; distance <= steps && open; distance++) {
+                    from += WAY_STEPS[way];
+                    open = squares[from] == NONE;
+                    if (!open && comesAlong(squares[from] - KINDS * bySide, bySide, way, distance)) {
+                        return true;
+                    }
                 }
             }
-            return isHitByKnight(bySide, square);
-        }
-
-        private boolean isHitAlong(int way, int bySide, int square) {
-            int steps = stepsToBorder(way, square);
-            int seenFrom = square;
-            for (int distance = 1; distance <= steps; distance++) {
-                seenFrom += WAY_STEPS[way];
-                if (squares[seenFrom] != NONE) {
-                    return comesAlong(squares[seenFrom] - KINDS * bySide, bySide, way, distance);
+            int knight = KNIGHT + KINDS * bySide;
+            for (int jump = 0; jump < JUMPS; jump++) {
+                int from = squareByJump(jump, square);
+                if (from != NO_SQUARE && squares[from] == knight) {
+                    return true;
                 }
             }
             return false;
         }
 
-        /** The way leads from the square that may be hit to the piece; a foreign kind is none of the six. */
+        /** The way leads from the square that may be hit to the piece, so a pawn's rank runs backwards. */
         private static boolean comesAlong(int kind, int bySide, int way, int distance) {
             switch (kind) {
                 case QUEEN:
@@ -323,28 +328,19 @@ public final class RuledBoard {
             }
         }
 
-        private boolean isHitByKnight(int bySide, int square) {
-            int knight = KNIGHT + KINDS * bySide;
-            for (int jump = 0; jump < KNIGHT_FILES.length; jump++) {
-                int file = square % FILES + KNIGHT_FILES[jump];
-                int rank = square / FILES + KNIGHT_RANKS[jump];
-                if (isOnBoard(file, rank) && squares[FILES * rank + file] == knight) {
-                    return true;
-                }
-            }
-            return false;
-        }
-
-        private static boolean isOnBoard(int file, int rank) {
-            return file >= 0 && file <= LAST && rank >= 0 && rank <= LAST;
-        }
-
         private static int stepsToBorder(int way, int square) {
             int file = square % FILES;
             int rank = square / FILES;
             int byFile = WAY_FILES[way] > 0 ? LAST - file : WAY_FILES[way] < 0 ? file : LAST;
             int byRank = WAY_RANKS[way] > 0 ? LAST - rank : WAY_RANKS[way] < 0 ? rank : LAST;
-            return Math.min(byFile, byRank);
+            return byFile < byRank ? byFile : byRank;
+        }
+
+        private static int squareByJump(int jump, int square) {
+            int file = square % FILES + JUMP_FILES[jump];
+            int rank = square / FILES + JUMP_RANKS[jump];
+            boolean onBoard = file >= 0 && file <= LAST && rank >= 0 && rank <= LAST;
+            return onBoard ? FILES * rank + file : NO_SQUARE;
         }
 
         /** Fills the row with the moves that there are, in their order; answers how many. */
@@ -379,7 +375,7 @@ public final class RuledBoard {
         boolean keepsKingSafe(int code) {
             int mover = side;
             int before = play(code);
-            boolean safe = !isInCheck(mover);
+            boolean safe = !isHitBy(1 - mover, kings[mover]);
             takeBack(code, before);
             return safe;
         }
@@ -434,7 +430,7 @@ public final class RuledBoard {
                 int steps = Math.min(reach, stepsToBorder(way, from));
                 int to = from;
                 boolean open = true;
-                for (int n = 0; n < steps && open; n++) {
+                for (int distance = 1; distance <= steps && open; distance++) {
                     to += WAY_STEPS[way];
                     open = squares[to] == NONE;
                     if (open || isOther(to)) {
@@ -447,14 +443,10 @@ public final class RuledBoard {
 
         private long targetsOfKnight(int from) {
             long targets = 0;
-            for (int jump = 0; jump < KNIGHT_FILES.length; jump++) {
-                int file = from % FILES + KNIGHT_FILES[jump];
-                int rank = from / FILES + KNIGHT_RANKS[jump];
-                if (isOnBoard(file, rank)) {
-                    int to = FILES * rank + file;
-                    if (squares[to] == NONE || isOther(to)) {
-                        targets |= 1L << to;
-                    }
+            for (int jump = 0; jump < JUMPS; jump++) {
+                int to = squareByJump(jump, from);
+                if (to != NO_SQUARE && (squares[to] == NONE || isOther(to))) {
+                    targets |= 1L << to;
                 }
             }
             return targets;
@@ -526,7 +518,7 @@ public final class RuledBoard {
             return true;
         }
 
-        /** Makes a candidate; answers what takeBack needs beside the code: piece taken, rights, passed file. */
+        /** Makes a candidate; answers what takeBack needs beside its code: the piece taken, rights, passed. */
         int play(int code) {
             int from = code & 63;
             int to = code >> 6 & 63;
@@ -609,25 +601,18 @@ public final class RuledBoard {
             }
         }
 
-        /** A number for the moves by passing that there are; 0 for none. */
+        /** A number that is the same just when the same moves by passing are there; 0 for none. */
         int passingMoves() {
             if (passed == NO_FILE) {
                 return 0;
             }
+            int pawn = PAWN + KINDS * side;
             int beside = passed + FILES * (side == WHITE ? 4 : 3);
-            int found = 0;
-            if (passed > 0 && canPass(beside - 1)) {
-                found |= 1;
-            }
-            if (passed < LAST && canPass(beside + 1)) {
-                found |= 2;
-            }
-            return found == 0 ? 0 : found + 4 * passed;
-        }
-
-        private boolean canPass(int from) {
-            return squares[from] == PAWN + KINDS * side
-                    && keepsKingSafe(codeOf(from, passingTarget(), NONE));
+            boolean low = passed > 0 && squares[beside - 1] == pawn
+                    && keepsKingSafe(codeOf(beside - 1, passingTarget(), NONE));
+            boolean high = passed < LAST && squares[beside + 1] == pawn
+                    && keepsKingSafe(codeOf(beside + 1, passingTarget(), NONE));
+            return low || high ? 4 * passed + (low ? 1 : 0) + (high ? 2 : 0) : 0;
         }
     }
 
@@ -700,10 +685,9 @@ public final class RuledBoard {
         private final int[] befores = new int[MOST_MADE];
         int made;
 
-        void start(Position position) {
+        void start() {
             made = 0;
             quiets[0] = 0;
-            notePosition(position);
         }
 
         void makeMove(Position position, int code) {
@@ -714,7 +698,6 @@ public final class RuledBoard {
             befores[made] = before;
             quiets[made + 1] = ofPawn || takes ? 0 : quiets[made] + 1;
             made++;
-            notePosition(position);
         }
 
         void takeMoveBack(Position position) {
@@ -744,8 +727,9 @@ public final class RuledBoard {
             return same;
         }
 
-        private void notePosition(Position position) {
-            marks[made] = position.passingMoves() | position.side << 5 | position.rights << 6;
+        /** Keeps the position of now; the number for its moves by passing is below 32. */
+        void notePosition(Position position, int passingMoves) {
+            marks[made] = passingMoves | position.side << 5 | position.rights << 6;
             for (int word = 0; word < WORDS; word++) {
                 boards[WORDS * made + word] = wordOf(position.squares, SQUARES_IN_WORD * word);
             }

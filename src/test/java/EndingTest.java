@@ -114,6 +114,9 @@ public final class EndingTest {
         // The same squares and rights with the other side to move are another position.
         RuledBoard other = Boards.of("4k3/8/8/8/8/8/8/R3K3 w - -");
         seenAfter(other, "a1a3 e8e7 a3a2 e7e8 a2a1", 1);
+        // So they are with other rights and the other side at once.
+        RuledBoard both = Boards.of("4k3/8/8/8/8/8/8/4K2R w K -");
+        seenAfter(both, "h1h3 e8e7 h3h2 e7e8 h2h1", 1);
         // The same kind of piece on the same square is the same position.
         RuledBoard twins = Boards.of("4k3/8/8/8/8/8/8/R3K2R w - -");
         seenAfter(twins, "a1a2 e8e7 h1h2 e7e8 a2a1 e8e7 h2h1 e7e8", 2);
@@ -136,6 +139,12 @@ public final class EndingTest {
         RuledBoard can = Boards.of("4k3/8/8/1Pp5/8/8/8/4K3 w - c");
         seenAfter(can, "e1e2 e8e7 e2e1 e7e8", 1);
         seenAfter(can, "e1e2 e8e7 e2e1 e7e8", 2);
+        RuledBoard first = Boards.of("4k3/8/8/Pp6/8/8/8/4K3 w - b");
+        seenAfter(first, "e1e2 e8e7 e2e1 e7e8", 1);
+        RuledBoard last = Boards.of("4k3/8/8/6pP/8/8/8/4K3 w - g");
+        seenAfter(last, "e1e2 e8e7 e2e1 e7e8", 1);
+        RuledBoard corner = Boards.of("4k3/8/8/pP6/8/8/8/4K3 w - a");
+        seenAfter(corner, "e1e2 e8e7 e2e1 e7e8", 1);
         RuledBoard nobody = Boards.of("4k3/8/8/2p5/8/8/8/4K3 w - c");
         seenAfter(nobody, "e1e2 e8e7 e2e1 e7e8", 2);
         RuledBoard border = Boards.of("4k3/8/8/p6P/8/8/8/4K3 w - a");
@@ -158,6 +167,12 @@ public final class EndingTest {
         RuledBoard pinned = Boards.of("4k3/8/8/K1Pp3r/8/8/8/8 w - d");
         CHECKS.argument("no move by passing", () -> Boards.move(pinned, "c5d6"));
         seenAfter(pinned, "a5a6 e8e7 a6a5 e7e8", 2);
+        RuledBoard mirrored = Boards.of("4k3/8/8/r3pP1K/8/8/8/8 w - e");
+        CHECKS.argument("no move by passing from the other side", () -> Boards.move(mirrored, "f5e6"));
+        seenAfter(mirrored, "h5h6 e8d8 h6h5 d8e8", 2);
+        RuledBoard black = Boards.of("8/8/8/8/k1pP3R/8/8/4K3 b - d");
+        CHECKS.argument("no move of black by passing", () -> Boards.move(black, "c4d3"));
+        seenAfter(black, "a4a5 e1e2 a5a4 e2e1", 2);
         // One of two pawns is pinned: the other one can still pass.
         RuledBoard one = Boards.of("2r1k3/8/8/2PpP3/8/8/8/2K5 w - d");
         CHECKS.argument("no move by passing of one", () -> Boards.move(one, "c5d6"));

@@ -32,6 +32,14 @@ public final class MateTest {
         // By promotion, and by promotion to a knight alone.
         mateIn("6k1/P4ppp/8/8/8/8/8/6K1 w - -", 1);
         mateIn("6nr/5Ppk/7p/8/8/8/8/6K1 w - -", 1);
+        // By castling alone.
+        mateIn("8/8/5N2/8/7b/8/5R2/2k1K2R w K -", 1);
+        mateIn("8/7P/8/8/3R4/8/3R4/R3K1k1 w Q -", 1);
+        mateIn("K3k2r/6r1/8/8/8/8/8/8 b k -", 1);
+        mateIn("r3k1K1/3q4/8/4r3/8/8/8/8 b q -", 1);
+        // By passing alone.
+        mateIn("8/7Q/8/6pP/8/5p2/5Kp1/n6k w - g", 1);
+        mateIn("8/8/8/1r6/1Pp5/8/2K1k3/q7 b - b", 1);
     }
 
     private static void none() {

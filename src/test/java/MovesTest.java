@@ -284,6 +284,8 @@ public final class MovesTest {
         CHECKS.argument("to told by promotion", () -> board.move(48, 40 - 64, 1));
         CHECKS.argument("far off", () -> board.move(Integer.MIN_VALUE, Integer.MAX_VALUE, 0));
         CHECKS.argument("promotion", () -> board.move(48, 40, 5));
+        CHECKS.argument("a promotion that wraps around to none", () -> board.move(48, 40, 1 << 20));
+        CHECKS.argument("squares that wrap around", () -> board.move(48, 40 + (1 << 26), 0));
         CHECKS.dueText("nothing changed", Boards.look(board), before);
         CHECKS.due("and a move goes on", board.move(48, 40, 0), 2);
         RuledBoard set = Boards.set("4k3/8/8/8/8/8/8/4K3");

@@ -20,6 +20,9 @@ public final class RandomRunsTest {
     private int calls;
     /** The file of the latest pawn that was put so that it may be passed. */
     private int lastPassed;
+    /** The latest move of each side, to be made backwards so that positions come again. */
+    private final int[] latest = new int[2];
+    private boolean shuffling;
 
     private RandomRunsTest(long seed) {
         this.seed = seed;
@@ -54,6 +57,7 @@ public final class RandomRunsTest {
 
     private void playOn(String told) {
         start();
+        shuffling = next(2) == 0;
         if (!told.isEmpty()) {
             set(told);
         }
@@ -75,12 +79,15 @@ public final class RandomRunsTest {
         begin(part[1].equals("w") ? 0 : 1, like.rights(), like.passed());
     }
 
-    /** Mostly a move that there is, now and then one taken back or one that may not be there. */
+    /** Mostly a move that there is, now and then one taken back, one made backwards or one that may not be. */
     private void step() {
-        int kind = next(12);
+        int kind = next(shuffling ? 20 : 12);
         int count = Integer.parseInt(Checks.told(() -> plain.moves()));
         if (kind == 0 || count == 0) {
             compare("undo", () -> board.undo(), () -> plain.undo());
+        } else if (kind >= 12) {
+            int code = latest[(int) plain.side()];
+            move(code >> 6 & 63, code & 63, 0);
         } else if (kind == 1) {
             move(next(66) - 1, next(66) - 1, next(4) == 0 ? next(8) - 1 : 0);
         } else {
@@ -88,6 +95,7 @@ public final class RandomRunsTest {
             for (int tries = 0; tries < 3 && plain.at(code >> 6 & 63) == 0 && next(2) == 0; tries++) {
                 code = (int) plain.nth(next(count));
             }
+            latest[(int) plain.side()] = code;
             move(code & 63, code >> 6 & 63, code >> 12);
         }
     }
@@ -121,8 +129,9 @@ public final class RandomRunsTest {
             int side = next(2);
             putKings();
             int pieces = next(round == 7 ? 34 : 9);
+            boolean hunt = next(2) == 0;
             for (int n = 0; n < pieces; n++) {
-                put(next(64), 1 + next(12));
+                put(next(64), hunt ? pieceForHunt(side) : 1 + next(12));
             }
             if (next(2) == 0) {
                 putPassed(side);
@@ -139,6 +148,11 @@ public final class RandomRunsTest {
                 }
             }
         }
+    }
+
+    /** No king, and mostly of one side, so that mate is often near. */
+    private int pieceForHunt(int side) {
+        return 1 + next(5) + 6 * (next(4) == 0 ? 1 - side : side);
     }
 
     private void putKings() {
