@@ -9,6 +9,22 @@ final class Checks {
 
     private int wrong;
     private int done;
+    private String words = "";
+    private int doneBefore = -1;
+
+    /** What follows is about these words of the document; each of them has to be looked at. */
+    void sentence(String newWords) {
+        endSentence();
+        words = newWords;
+        doneBefore = done;
+    }
+
+    private void endSentence() {
+        if (doneBefore == done) {
+            wrong++;
+            System.out.println("[" + words + "] nothing was looked at");
+        }
+    }
 
     void due(String what, long got, long want) {
         dueText(what, Long.toString(got), Long.toString(want));
@@ -22,7 +38,8 @@ final class Checks {
         done++;
         if (!got.equals(want)) {
             wrong++;
-            System.out.println(what + " answered " + got + ", due is " + want);
+            String about = words.isEmpty() ? "" : "[" + words + "] ";
+            System.out.println(about + what + " answered " + got + ", due is " + want);
         }
     }
 
@@ -44,6 +61,7 @@ final class Checks {
     }
 
     void finish() {
+        endSentence();
         System.out.println(done + " answers looked at, " + wrong + " not as due");
         if (wrong != 0 || done == 0) {
             System.exit(1);
