@@ -90,6 +90,20 @@ public final class BoundsTest {
             refuse("begin(1, 0, " + passed + ")", () -> Boards.set("3k4/8/8/8/PPPPPPPP/8/8/3K4"),
                     b -> b.begin(1, 0, passed));
         }
+        CHECKS.sentence("begin: a passed file out of its bounds runs over into no other rank");
+        for (int passed : new int[] {-10, -9, -8, -7, -6, -5, -4, -3, -2, 8, 9, 10, 11, 12, 13, 14, 15, 16}) {
+            refuse("begin(0, 0, " + passed + ")", () -> pawnAt(32 + passed, 7), b -> b.begin(0, 0, passed));
+            refuse("begin(1, 0, " + passed + ")", () -> pawnAt(24 + passed, 1), b -> b.begin(1, 0, passed));
+        }
+    }
+
+    private static RuledBoard pawnAt(int square, int piece) {
+        RuledBoard board = Boards.set("8/8/8/8/8/8/8/8");
+        boolean low = square % 8 < 4;
+        board.put(low ? 7 : 0, 6);
+        board.put(low ? 63 : 56, 12);
+        board.put(square, piece);
+        return board;
     }
 
     private static void moveSquares() {

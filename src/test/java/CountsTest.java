@@ -21,6 +21,7 @@ public final class CountsTest {
         seenTellsSides();
         seenTellsRights();
         seenTellsPassing();
+        seenPassingOverBorder();
         seenTellsNoMoveNoPassing();
         CHECKS.finish();
     }
@@ -187,11 +188,30 @@ public final class CountsTest {
         quiet("4k3/8/8/8/8/8/4p3/4K3 w - -", "e1e2", 0);
         quiet("4k3/8/8/8/8/8/8/r3K2R w - -", "e1e2 a1h1", 0);
         quiet("4k3/8/8/8/8/8/8/r3K2R w - -", "e1e2 a1h1 e2e3", 1);
+        for (int taken = 1; taken <= 11; taken++) {
+            quietByTaking(taken);
+        }
         quiet("1n2k3/P7/8/8/8/8/8/4K3 w - -", "e1d1 e8e7 a7b8q", 0);
         quiet("4k3/8/8/8/8/1p6/P7/4K3 w - -", "e1d1 e8e7 a2b3", 0);
         CHECKS.sentence("quiet: a move by passing is both");
         quiet("4k3/2p5/8/1P6/8/8/8/4K3 b - -", "e8e7 e1d1 c7c5 b5c6", 0);
         quiet("4k3/2p5/8/1P6/8/8/8/4K3 b - -", "e8e7 e1d1 c7c5 b5c6 e7e6", 1);
+    }
+
+    /** A rook of the other side takes the piece, after two quiet moves of the kings. */
+    private static void quietByTaking(int taken) {
+        if (taken == 6) {
+            return;
+        }
+        int side = taken > 6 ? 0 : 1;
+        RuledBoard board = Boards.set("8/8/5k2/8/8/7K/8/8");
+        board.put(8, 4 + 6 * side);
+        board.put(48, taken);
+        board.begin(side, 0, -1);
+        Boards.play(board, side == 0 ? "h3h4 f6f5" : "f6f5 h3h4");
+        CHECKS.due("quiet() before", board.quiet(), 2);
+        board.move(8, 48, 0);
+        CHECKS.due("quiet() after " + taken + " went off", board.quiet(), 0);
     }
 
     private static void quietByUndo() {
@@ -253,11 +273,17 @@ public final class CountsTest {
     private static void seenTellsSquares() {
         CHECKS.sentence("same: all squares are the same");
         for (int square = 0; square < 64; square++) {
-            boolean tried = false;
-            for (int kings = 0; kings < 64 * 64 && !tried; kings += 5) {
-                tried = differsOnOneSquare(square, kings % 64, kings / 64);
+            int rook = square % 8 == 0 ? square + 1 : square - 1;
+            differsOnOneSquare(new int[] {rook, 4, square, 8});
+        }
+        CHECKS.sentence("same: a square is not told by the one beside it");
+        for (int beside = 1; beside <= 5; beside++) {
+            for (int taken = 7; taken <= 11; taken++) {
+                differsOnOneSquare(new int[] {44, 4, 28, taken, 27, beside});
+                differsOnOneSquare(new int[] {43, 4, 27, taken, 28, beside});
+                differsOnOneSquare(new int[] {40, 4, 24, taken, 23, beside});
+                differsOnOneSquare(new int[] {39, 4, 23, taken, 24, beside});
             }
-            CHECKS.due("a board to try square " + square + " was found", tried, true);
         }
         CHECKS.sentence("same: it doesn't matter which of two pieces alike stands on a square");
         RuledBoard twins = Boards.of("4k3/8/8/8/8/8/8/R3K2R w - -");
@@ -269,21 +295,33 @@ public final class CountsTest {
         seen(kinds, "a1a2 e8e7 h1a1 e7e8 a2b2 e8e7 b2b1 e7e8", 1);
     }
 
-    /** A rook takes a knight and goes back, so that nothing differs but the knight; false where it can't. */
-    private static boolean differsOnOneSquare(int square, int white, int black) {
-        int rook = square % 8 == 0 ? square + 1 : square - 1;
+    /** Squares and pieces by turns: the first takes the second and goes back, so that nothing else differs. */
+    private static void differsOnOneSquare(int[] placing) {
+        boolean tried = false;
+        for (int kings = 0; kings < 64 * 64 && !tried; kings += 5) {
+            tried = differsWithKings(placing, kings % 64, kings / 64);
+        }
+        CHECKS.due("kings were found for a board to try square " + placing[2], tried, true);
+    }
+
+    /** False where the kings stand in the way. */
+    private static boolean differsWithKings(int[] placing, int white, int black) {
         RuledBoard board = Boards.set("8/8/8/8/8/8/8/8");
         board.put(white, 6);
         board.put(black, 12);
-        board.put(square, 8);
-        board.put(rook, 4);
-        int[][] round = {{rook, square}, {black, black ^ 1}, {square, rook}, {black ^ 1, black}};
-        boolean fits = !Checks.told(() -> board.begin(0, 0, -1)).startsWith("throws");
+        boolean fits = true;
+        for (int n = 0; n < placing.length; n += 2) {
+            fits = board.put(placing[n], placing[n + 1]) == 0 && fits;
+        }
+        int from = placing[0];
+        int square = placing[2];
+        int[][] round = {{from, square}, {black, black ^ 1}, {square, from}, {black ^ 1, black}};
+        fits = fits && !Checks.told(() -> board.begin(0, 0, -1)).startsWith("throws");
         for (int[] step : round) {
             fits = fits && !Checks.told(() -> board.move(step[0], step[1], 0)).startsWith("throws");
         }
         if (fits) {
-            CHECKS.due("seen() without the knight on " + square, board.seen(), 1);
+            CHECKS.due("seen() without " + placing[3] + " on " + square, board.seen(), 1);
         }
         return fits;
     }
@@ -333,6 +371,21 @@ public final class CountsTest {
                     seen(board, round, low || high ? 2 : 3);
                 }
             }
+        }
+    }
+
+    /** A pawn on the other border, one square on or back by number, stands in no file next to the passed one. */
+    private static void seenPassingOverBorder() {
+        CHECKS.sentence("same: no move by passing over the border");
+        String[] whites = {"3k4/8/8/p7/7P/8/8/3K4 w - a", "3k4/8/P7/7p/8/8/8/3K4 w - h",
+            "3k4/8/8/p6P/8/8/8/3K4 w - a", "3k4/8/8/P6p/8/8/8/3K4 w - h"};
+        for (String told : whites) {
+            seen(Boards.of(told), "d1e1 d8e8 e1d1 e8d8", 2);
+        }
+        String[] blacks = {"3k4/8/8/8/P7/7p/8/3K4 b - a", "3k4/8/8/p7/7P/8/8/3K4 b - h",
+            "3k4/8/8/8/P6p/8/8/3K4 b - a", "3k4/8/8/8/p6P/8/8/3K4 b - h"};
+        for (String told : blacks) {
+            seen(Boards.of(told), "d8e8 d1e1 e8d8 e1d1", 2);
         }
     }
 
