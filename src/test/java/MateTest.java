@@ -9,6 +9,7 @@ public final class MateTest {
         justTooFar();
         againstAllMoves();
         stalemateIsNoMate();
+        nothingLeftBehind();
         refused();
         atTheLimit();
         CHECKS.finish();
@@ -128,6 +129,24 @@ public final class MateTest {
         CHECKS.due("ending() by the move that leaves none", board.ending(), 2);
         mateIn("k7/P7/2K5/8/8/8/8/8 w - -", 0);
         mateIn("8/8/8/8/8/5k2/5p2/5K2 w - -", 0);
+    }
+
+    /** On one object: first a board with the mating move, then one where a pawn stands in its way. */
+    private static void nothingLeftBehind() {
+        CHECKS.sentence("mate: by moves of the board of now alone");
+        String[] open = {"8/8/R7/8/8/8/8/5K1k", "8/8/8/8/4Q3/k1K5/8/8", "4k3/6Q1/5K2/8/8/8/8/8",
+            "8/8/8/8/8/8/8/k1K4Q", "8/8/8/R7/8/8/8/5K1k"};
+        String[] shut = {"8/8/R3P3/8/8/8/8/5K1k", "8/8/2P5/8/4Q3/k1K5/8/8", "4k3/4P1Q1/5K2/8/8/8/8/8",
+            "8/8/2P5/8/8/8/8/k1K4Q", "8/8/8/R2P4/8/8/8/5K1k"};
+        for (int n = 0; n < open.length; n++) {
+            RuledBoard board = Boards.of(open[n] + " w - -");
+            CHECKS.due(open[n] + ": mate(1)", board.mate(1), 1);
+            board.clear();
+            Boards.put(board, shut[n]);
+            board.begin(0, 0, -1);
+            CHECKS.due(shut[n] + ": mate(1) after it", board.mate(1), 0);
+            CHECKS.due(shut[n] + ": mate(1) at once", Boards.of(shut[n] + " w - -").mate(1), 0);
+        }
     }
 
     private static void refused() {
