@@ -82,6 +82,8 @@ public final class CountsTest {
         mated.undo();
         Boards.play(mated, "g5g1 h8h7");
         CHECKS.state("no move after 150", () -> Boards.move(mated, "h8h7"));
+        CHECKS.sentence("mate answers as if there were no limit of 150 moves");
+        CHECKS.due("mate in one after 150", mated.mate(2), 1);
     }
 
     private static void stillAnswersAt150() {
